@@ -92,7 +92,7 @@ public final class KeptParts {
         web.removeArc(arc);
         trees.arcRemoved(arc);
         row.arcRemoved(arc);
-        moved = chosen.renew();
+        moved = chosen.arcChanged(web.first[arc], web.second[arc]);
         return trees.parts();
     }
 
@@ -266,34 +266,58 @@ public final class KeptParts {
         int arc = web.addArc(a, b);
         trees.arcAdded(arc);
         row.arcAdded(arc, loose);
-        moved = chosen.renew();
+        moved = chosen.arcChanged(a, b);
         return arc;
     }
 
-    /** For each node the arcs that have it as their key, the least number first. */
+    /** Closes a row up where a number stands in it: how many numbers are left. */
+    private static int leaveOut(int[] row, int count, int number) {
+        int kept = 0;
+        for (int i = 0; i < count; i++) {
+            if (row[i] != number) {
+                row[kept] = row[i];
+                kept++;
+            }
+        }
+        return kept;
+    }
+
+    /** For each node the arcs that begin (or that end) at it, the least number first. */
     private static final class Fan {
         final int[] arcs = new int[MOST_ARCS];
         /** Where a node's arcs begin; they end where the next node's begin. */
         final int[] start = new int[MOST_NODES + 1];
+        private int nodes;
+        private int count;
 
-        void nodeAdded(int node) {
-            start[node + 1] = start[node];
+        void addNode() {
+            start[nodes + 1] = count;
+            nodes++;
         }
 
-        void fill(int nodes, int[] list, int count, int[] key) {
-            Arrays.fill(start, 0);
-            for (int i = 0; i < count; i++) {
-                start[key[list[i]]]++;
+        /** The arc's number is greater than all others. */
+        void addArc(int node, int arc) {
+            int at = start[node + 1];
+            for (int i = count; i > at; i--) {
+                arcs[i] = arcs[i - 1];
             }
-            for (int node = 1; node <= nodes; node++) {
-                start[node] += start[node - 1];
+            arcs[at] = arc;
+            count++;
+            for (int next = node + 1; next <= nodes; next++) {
+                start[next]++;
             }
-            // From the last one on: each node's start sinks, and its least number comes to stand first.
-            for (int i = count - 1; i >= 0; i--) {
-                int node = key[list[i]];
-                start[node]--;
-                arcs[start[node]] = list[i];
+        }
+
+        void removeArc(int node, int arc) {
+            count = leaveOut(arcs, count, arc);
+            for (int next = node + 1; next <= nodes; next++) {
+                start[next]--;
             }
+        }
+
+        void empty() {
+            nodes = 0;
+            count = 0;
         }
     }
 
@@ -327,8 +351,8 @@ public final class KeptParts {
 
         int addNode() {
             int node = nodes;
-            out.nodeAdded(node);
-            in.nodeAdded(node);
+            out.addNode();
+            in.addNode();
             nodes++;
             age++;
             return node;
@@ -340,30 +364,29 @@ public final class KeptParts {
             second[arc] = b;
             here[arc] = true;
             list[count] = arc;
+            out.addArc(a, arc);
+            in.addArc(b, arc);
             numbers++;
             count++;
-            renew();
+            age++;
             return arc;
         }
 
         /** Its nodes can still be read behind this. */
         void removeArc(int arc) {
-            int kept = 0;
-            for (int i = 0; i < count; i++) {
-                if (list[i] != arc) {
-                    list[kept] = list[i];
-                    kept++;
-                }
-            }
-            count = kept;
+            count = leaveOut(list, count, arc);
+            out.removeArc(first[arc], arc);
+            in.removeArc(second[arc], arc);
             here[arc] = false;
-            renew();
+            age++;
         }
 
         void empty() {
             nodes = 0;
             count = 0;
             numbers = 0;
+            out.empty();
+            in.empty();
             age++;
         }
 
@@ -379,12 +402,6 @@ public final class KeptParts {
         int arcAt(int node, int k) {
             int leave = out.start[node + 1] - out.start[node];
             return k < leave ? out.arcs[out.start[node] + k] : in.arcs[in.start[node] + k - leave];
-        }
-
-        private void renew() {
-            out.fill(nodes, list, count, first);
-            in.fill(nodes, list, count, second);
-            age++;
         }
     }
 
@@ -437,21 +454,25 @@ public final class KeptParts {
         }
 
         void nodeAdded(int node) {
-            hang(node);
+            hang(node, NONE, NONE, node, 0);
         }
 
         void arcAdded(int arc) {
+            int a = web.first[arc];
+            int b = web.second[arc];
             level[arc] = 0;
-            tree[arc] = !together(web.first[arc], web.second[arc]);
+            tree[arc] = !together(a, b);
             if (tree[arc]) {
-                renew();
+                boolean aIsUpper = root[a] < root[b];
+                int upper = aIsUpper ? a : b;
+                hang(aIsUpper ? b : a, upper, arc, root[upper], depth[upper] + 1);
             }
         }
 
         void arcRemoved(int arc) {
             if (tree[arc]) {
                 mend(arc);
-                renew();
+                hangAll();
             }
         }
 
@@ -558,22 +579,19 @@ public final class KeptParts {
             return false;
         }
 
-        private void renew() {
+        private void hangAll() {
             Arrays.fill(root, NONE);
             for (int node = 0; node < web.nodes; node++) {
                 if (root[node] == NONE) {
-                    hang(node);
+                    hang(node, NONE, NONE, node, 0);
                 }
             }
         }
 
-        /** Hangs a PART from its least node. */
-        private void hang(int least) {
-            root[least] = least;
-            parent[least] = NONE;
-            up[least] = NONE;
-            depth[least] = 0;
-            queue[0] = least;
+        /** Hangs a node, with all that its TREE arcs join to it and that hangs elsewhere. */
+        private void hang(int from, int upper, int arcUp, int least, int deep) {
+            place(from, upper, arcUp, least, deep);
+            queue[0] = from;
             int tail = 1;
             for (int head = 0; head < MOST_NODES && head < tail; head++) {
                 int node = queue[head];
@@ -581,16 +599,20 @@ public final class KeptParts {
                 for (int k = 0; k < degree; k++) {
                     int arc = web.arcAt(node, k);
                     int next = web.other(arc, node);
-                    if (tree[arc] && root[next] == NONE) {
-                        root[next] = least;
-                        parent[next] = node;
-                        up[next] = arc;
-                        depth[next] = depth[node] + 1;
+                    if (tree[arc] && root[next] != least) {
+                        place(next, node, arc, least, depth[node] + 1);
                         queue[tail] = next;
                         tail++;
                     }
                 }
             }
+        }
+
+        private void place(int node, int upper, int arcUp, int least, int deep) {
+            root[node] = least;
+            parent[node] = upper;
+            up[node] = arcUp;
+            depth[node] = deep;
         }
     }
 
@@ -1188,7 +1210,6 @@ public final class KeptParts {
         /** All nodes in the sequence in which THE SET looks at them. */
         private final int[] ranked = new int[MOST_NODES];
         private final boolean[] in = new boolean[MOST_NODES];
-        private final boolean[] anew = new boolean[MOST_NODES];
 
         Chosen(Web web) {
             this.web = web;
@@ -1220,35 +1241,47 @@ public final class KeptParts {
         }
 
         int reweigh(int node, int newWeight) {
-            int kept = 0;
-            for (int i = 0; i < web.nodes; i++) {
-                if (ranked[i] != node) {
-                    ranked[kept] = ranked[i];
-                    kept++;
-                }
-            }
+            int left = leaveOut(ranked, web.nodes, node);
             weight[node] = newWeight;
-            insert(node, kept);
+            insert(node, left);
             return renew();
         }
 
-        /** How many nodes come to THE SET or go from it. */
-        int renew() {
-            choose();
-            int changed = 0;
+        /** How many nodes come to THE SET or go from it, as an arc came between two nodes or went. */
+        int arcChanged(int a, int b) {
+            int behind = isAhead(a, b) ? b : a;
+            // All depends on what comes ahead: if this one stays as it is, nothing else has a cause to change.
+            return in[behind] == isFree(behind) ? 0 : renew();
+        }
+
+        boolean holds() {
             for (int node = 0; node < web.nodes; node++) {
-                if (in[node] != anew[node]) {
-                    in[node] = anew[node];
+                if (in[node] != isFree(node)) {
+                    return false;
+                }
+            }
+            return true;
+        }
+
+        private int renew() {
+            int changed = 0;
+            for (int i = 0; i < web.nodes; i++) {
+                int node = ranked[i];
+                boolean free = isFree(node);
+                if (in[node] != free) {
+                    in[node] = free;
                     changed++;
                 }
             }
             return changed;
         }
 
-        boolean holds() {
-            choose();
-            for (int node = 0; node < web.nodes; node++) {
-                if (in[node] != anew[node]) {
+        /** Whether no NEIGHBOUR that comes ahead of a node is in THE SET. */
+        private boolean isFree(int node) {
+            int degree = web.degree(node);
+            for (int k = 0; k < degree; k++) {
+                int other = web.other(web.arcAt(node, k), node);
+                if (in[other] && isAhead(other, node)) {
                     return false;
                 }
             }
@@ -1266,27 +1299,6 @@ public final class KeptParts {
 
         private boolean isAhead(int node, int other) {
             return weight[node] > weight[other] || weight[node] == weight[other] && node < other;
-        }
-
-        private void choose() {
-            for (int node = 0; node < web.nodes; node++) {
-                anew[node] = true;
-            }
-            for (int i = 0; i < web.nodes; i++) {
-                if (anew[ranked[i]]) {
-                    shutOut(ranked[i]);
-                }
-            }
-        }
-
-        private void shutOut(int node) {
-            int degree = web.degree(node);
-            for (int k = 0; k < degree; k++) {
-                int other = web.other(web.arcAt(node, k), node);
-                if (other != node) {
-                    anew[other] = false;
-                }
-            }
         }
     }
 
