@@ -49,6 +49,7 @@ public final class PromiseRuns {
         toldChanges();
         sound();
         clear();
+        fullHouse();
         face();
         System.out.println("promises: " + rows + " rows, " + wrong + " wrong");
         if (wrong != 0) {
@@ -198,6 +199,48 @@ public final class PromiseRuns {
         whole.due(-1, "put", 299, 0);
         whole.due(298, "ring", 298);
         whole.due(-1, "ring", 299);
+    }
+
+    /** All that can be asked of as many nodes as there can be, joined to a ring. */
+    private static void fullHouse() {
+        PromiseRuns run = new PromiseRuns("a full house", 0);
+        run.due(0, "chain", 300);
+        run.due(299, "put", 299, 0);
+        run.due(300, "put", 299, 299);
+        int[] told = {300, 301, 1, 0, 0, 1, 2, 150, 2, 0, 299, 0, 0};
+        for (int what = 0; what < told.length; what++) {
+            run.due(told[what], "told", what);
+        }
+        int[] last = {0, 0, 0, 299, 2, 0, 2, 299, 0};
+        for (int what = 0; what < last.length; what++) {
+            run.due(last[what], "of", 299, what);
+        }
+        run.due(true, "two", 299, 150);
+        run.due(299, "order", 299);
+        run.dueOdd(299, 300);
+        run.due(-1, "ring", 0);
+        run.due(0L, "triangles");
+        run.due(0, "planTake", 150);
+        run.due(1, "planTake", 299);
+        run.due(2, "planTake", 300);
+        int[] later = {2, 2, 151, 298};
+        for (int what = 0; what < later.length; what++) {
+            run.due(later[what], "later", 3, what);
+        }
+        run.due(false, "laterJoined", 2, 299, 0);
+        run.due(true, "sound");
+        run.due(300, "weigh", 299, 1);
+        run.due(1, "take", 150);
+        run.due(1, "arc", 299, 3);
+        run.due(0, "arc", 299, 6);
+        run.due(151, "order", 0);
+        run.due(150, "order", 299);
+        run.due(300, "told", 5);
+        run.due(299, "told", 4);
+        run.due(true, "sound");
+        run.due("", "clear");
+        run.due(0, "chain", 300);
+        run.due(300, "told", 5);
     }
 
     private static void chainCountsAsItsLastPut() {
