@@ -1,21 +1,13 @@
 /** For each promise runs of calls with the answers that are worked out by hand from the document. */
 public final class PromiseRuns {
-    private static final String INDEX = "throws.IndexOutOfBoundsException";
-    private static final String ARGUMENT = "throws.IllegalArgumentException";
-    private static final String STATE = "throws.IllegalStateException";
-    private static final String ROOM = "throws.UnsupportedOperationException";
+    private static final String INDEX = Run.INDEX;
+    private static final String ARGUMENT = Run.ARGUMENT;
+    private static final String STATE = Run.STATE;
+    private static final String ROOM = Run.ROOM;
     private static final int LEAST = Integer.MIN_VALUE;
     private static final int MOST = Integer.MAX_VALUE;
 
-    private static int rows = 0;
-    private static int wrong = 0;
-
-    private final String promise;
-    private final KeptParts x;
-
-    private PromiseRuns(String promise, int strict) {
-        this.promise = promise;
-        x = new KeptParts(strict);
+    private PromiseRuns() {
     }
 
     public static void main(String[] args) {
@@ -51,66 +43,12 @@ public final class PromiseRuns {
         clear();
         fullHouse();
         face();
-        System.out.println("promises: " + rows + " rows, " + wrong + " wrong");
-        if (wrong != 0) {
-            System.exit(1);
-        }
-    }
-
-    private void due(Object answer, String name, int... numbers) {
-        rows++;
-        String got = Asker.ask(x, name, numbers);
-        if (!got.equals(String.valueOf(answer))) {
-            wrong++;
-            StringBuilder call = new StringBuilder();
-            for (int number : numbers) {
-                call.append(call.length() == 0 ? "" : ", ").append(number);
-            }
-            System.out.println(promise + ": " + name + "(" + call + ") answered " + got + ", due is " + answer);
-        }
-    }
-
-    /** One call for each number: name(number). */
-    private void dueAll(Object answer, String name, int... numbers) {
-        for (int number : numbers) {
-            due(answer, name, number);
-        }
-    }
-
-    /** The answers of name(0, what), name(1, what), .. */
-    private void dueRow(String name, int what, int... answers) {
-        for (int i = 0; i < answers.length; i++) {
-            due(answers[i], name, i, what);
-        }
-    }
-
-    /** The whole order, from place 0 on. */
-    private void dueOrder(int... nodes) {
-        for (int place = 0; place < nodes.length; place++) {
-            due(nodes[place], "order", place);
-            due(place, "of", nodes[place], 3);
-        }
-        due(INDEX, "order", nodes.length);
-    }
-
-    private void dueRing(int... arcs) {
-        for (int k = 0; k < arcs.length; k++) {
-            due(arcs[k], "ring", k);
-        }
-        due(-1, "ring", arcs.length);
-    }
-
-    private void dueOdd(int node, int... arcs) {
-        for (int k = 0; k < arcs.length; k++) {
-            due(arcs[k], "odd", node, k);
-        }
-        due(-1, "odd", node, arcs.length);
-        due(-1, "odd", node, MOST);
+        Run.end("promises");
     }
 
     private static void newObject() {
         for (int strict : new int[] {0, 1, 2, -1, LEAST, MOST}) {
-            PromiseRuns run = new PromiseRuns("1 new object", strict);
+            Run run = new Run("1 new object", strict);
             for (int what = 0; what <= 12; what++) {
                 run.due(0, "told", what);
             }
@@ -135,7 +73,7 @@ public final class PromiseRuns {
     }
 
     private static void node() {
-        PromiseRuns run = new PromiseRuns("2 node", 0);
+        Run run = new Run("2 node", 0);
         run.due(0, "node", LEAST);
         run.due(1, "node", MOST);
         run.due(2, "node", -1);
@@ -160,7 +98,7 @@ public final class PromiseRuns {
     }
 
     private static void chain() {
-        PromiseRuns run = new PromiseRuns("3 chain", 0);
+        Run run = new Run("3 chain", 0);
         run.dueAll(ARGUMENT, "chain", 0, -1, 301, LEAST, MOST);
         run.due(0, "told", 0);
         run.due(0, "node", 5);
@@ -190,7 +128,7 @@ public final class PromiseRuns {
         run.due(296, "told", 1);
         run.due(296, "put", 299, 0);
 
-        PromiseRuns whole = new PromiseRuns("3 chain", 1);
+        Run whole = new Run("3 chain", 1);
         whole.due(0, "chain", 300);
         whole.due(299, "told", 1);
         whole.due(299, "told", 4);
@@ -203,7 +141,7 @@ public final class PromiseRuns {
 
     /** All that can be asked of as many nodes as there can be, joined to a ring. */
     private static void fullHouse() {
-        PromiseRuns run = new PromiseRuns("a full house", 0);
+        Run run = new Run("a full house", 0);
         run.due(0, "chain", 300);
         run.due(299, "put", 299, 0);
         run.due(300, "put", 299, 299);
@@ -244,7 +182,7 @@ public final class PromiseRuns {
     }
 
     private static void chainCountsAsItsLastPut() {
-        PromiseRuns run = new PromiseRuns("3 chain, 20 told", 0);
+        Run run = new Run("3 chain, 20 told", 0);
         run.due(0, "chain", 2);
         run.due(1, "told", 12);
         run.due(2, "chain", 3);
@@ -258,7 +196,7 @@ public final class PromiseRuns {
     }
 
     private static void put() {
-        PromiseRuns run = new PromiseRuns("4 put", 0);
+        Run run = new Run("4 put", 0);
         run.due(0, "chain", 3);
         run.due(INDEX, "put", -1, 0);
         run.due(INDEX, "put", 0, 3);
@@ -280,7 +218,7 @@ public final class PromiseRuns {
     }
 
     private static void putOrders() {
-        PromiseRuns run = new PromiseRuns("4 put, THE ORDER", 0);
+        Run run = new Run("4 put, THE ORDER", 0);
         for (int i = 0; i < 6; i++) {
             run.due(i, "node", 0);
         }
@@ -304,7 +242,7 @@ public final class PromiseRuns {
     }
 
     private static void putInAStrictHouse() {
-        PromiseRuns run = new PromiseRuns("4 put, STRICT", 1);
+        Run run = new Run("4 put, STRICT", 1);
         run.due(0, "chain", 3);
         run.due(0, "planPut", 2, 0);
         run.due(-1, "put", 2, 0);
@@ -324,7 +262,7 @@ public final class PromiseRuns {
     }
 
     private static void take() {
-        PromiseRuns run = new PromiseRuns("5 take", 0);
+        Run run = new Run("5 take", 0);
         run.due(0, "chain", 4);
         run.due(3, "put", 3, 0);
         run.due(4, "put", 1, 1);
@@ -346,7 +284,7 @@ public final class PromiseRuns {
     }
 
     private static void takeRaisesLevels() {
-        PromiseRuns run = new PromiseRuns("5 take, LEVELS", 0);
+        Run run = new Run("5 take, LEVELS", 0);
         run.due(0, "chain", 4);
         run.due(3, "put", 0, 1);
         run.due(4, "put", 0, 0);
@@ -383,7 +321,7 @@ public final class PromiseRuns {
     }
 
     private static void takeFindsByLevels() {
-        PromiseRuns run = new PromiseRuns("5 take, the LESSER", 0);
+        Run run = new Run("5 take, the LESSER", 0);
         run.due(0, "chain", 5);
         run.due(4, "put", 4, 0);
         run.due(5, "put", 4, 1);
@@ -406,7 +344,7 @@ public final class PromiseRuns {
     }
 
     private static void takeOrdersLooseArcs() {
-        PromiseRuns run = new PromiseRuns("5 take, LOOSE arcs", 0);
+        Run run = new Run("5 take, LOOSE arcs", 0);
         run.due(0, "chain", 3);
         run.due(2, "put", 2, 0);
         run.due(3, "put", 0, 0);
@@ -432,7 +370,7 @@ public final class PromiseRuns {
         run.dueOrder(1, 2, 0);
         run.due(true, "sound");
 
-        PromiseRuns both = new PromiseRuns("5 take, LOOSE arcs by number", 0);
+        Run both = new Run("5 take, LOOSE arcs by number", 0);
         both.due(0, "chain", 3);
         both.due(2, "put", 2, 0);
         both.due(3, "put", 1, 0);
@@ -444,7 +382,7 @@ public final class PromiseRuns {
     }
 
     private static void weigh() {
-        PromiseRuns run = new PromiseRuns("6 weigh", 0);
+        Run run = new Run("6 weigh", 0);
         run.due(0, "chain", 4);
         run.dueRow("of", 5, 1, 0, 1, 0);
         run.due(INDEX, "weigh", 4, 0);
@@ -470,7 +408,7 @@ public final class PromiseRuns {
     }
 
     private static void joined() {
-        PromiseRuns run = new PromiseRuns("7 joined", 0);
+        Run run = new Run("7 joined", 0);
         run.due(0, "chain", 3);
         run.due(3, "node", 0);
         run.due(true, "joined", 2, 0);
@@ -488,7 +426,7 @@ public final class PromiseRuns {
     }
 
     private static void two() {
-        PromiseRuns run = new PromiseRuns("8 two", 0);
+        Run run = new Run("8 two", 0);
         run.due(0, "chain", 4);
         run.due(true, "two", 3, 3);
         run.due(false, "two", 0, 1);
@@ -511,7 +449,7 @@ public final class PromiseRuns {
         run.due(true, "two", 0, 2);
         run.due(0, "told", 4);
 
-        PromiseRuns bare = new PromiseRuns("8 two", 0);
+        Run bare = new Run("8 two", 0);
         bare.due(0, "node", 0);
         bare.due(1, "node", 0);
         bare.due(true, "two", 1, 1);
@@ -519,7 +457,7 @@ public final class PromiseRuns {
     }
 
     private static void of() {
-        PromiseRuns run = new PromiseRuns("9 of", 0);
+        Run run = new Run("9 of", 0);
         run.due(0, "node", 3);
         run.due(1, "chain", 4);
         run.due(3, "put", 4, 2);
@@ -546,7 +484,7 @@ public final class PromiseRuns {
     }
 
     private static void ofCores() {
-        PromiseRuns run = new PromiseRuns("9 of, COREs", 0);
+        Run run = new Run("9 of, COREs", 0);
         run.due(0, "chain", 6);
         // 0 1 2 3 all with one another, and 4 with 3 and 5; arcs alike and loops count nothing.
         run.due(5, "put", 0, 2);
@@ -565,7 +503,7 @@ public final class PromiseRuns {
     }
 
     private static void arc() {
-        PromiseRuns run = new PromiseRuns("10 arc", 0);
+        Run run = new Run("10 arc", 0);
         run.due(0, "chain", 3);
         run.due(3, "node", 0);
         run.due(2, "put", 2, 0);
@@ -594,7 +532,7 @@ public final class PromiseRuns {
     }
 
     private static void order() {
-        PromiseRuns run = new PromiseRuns("11 order", 0);
+        Run run = new Run("11 order", 0);
         run.due(0, "chain", 3);
         run.dueAll(INDEX, "order", -1, 3, LEAST, MOST);
         run.dueOrder(0, 1, 2);
@@ -605,7 +543,7 @@ public final class PromiseRuns {
     }
 
     private static void odd() {
-        PromiseRuns run = new PromiseRuns("12 odd", 0);
+        Run run = new Run("12 odd", 0);
         run.due(0, "chain", 5);
         run.due(INDEX, "odd", 0, -1);
         run.due(INDEX, "odd", 5, 0);
@@ -639,7 +577,7 @@ public final class PromiseRuns {
     }
 
     private static void ring() {
-        PromiseRuns run = new PromiseRuns("13 ring", 0);
+        Run run = new Run("13 ring", 0);
         run.dueAll(INDEX, "ring", -1, LEAST);
         run.due(-1, "ring", MOST);
         run.due(0, "chain", 4);
@@ -664,7 +602,7 @@ public final class PromiseRuns {
         run.due(10, "put", 1, 1);
         run.dueRing();
 
-        PromiseRuns strict = new PromiseRuns("13 ring, STRICT", 1);
+        Run strict = new Run("13 ring, STRICT", 1);
         strict.due(0, "chain", 3);
         strict.due(-1, "put", 2, 0);
         strict.dueRing(0, 1);
@@ -681,7 +619,7 @@ public final class PromiseRuns {
         strict.due(3, "put", 1, 0);
         strict.dueRing(0);
 
-        PromiseRuns second = new PromiseRuns("13 ring, the second arc decides", 0);
+        Run second = new Run("13 ring, the second arc decides", 0);
         second.due(0, "chain", 2);
         second.due(2, "node", 0);
         second.due(1, "put", 1, 2);
@@ -696,7 +634,7 @@ public final class PromiseRuns {
     }
 
     private static void triangles() {
-        PromiseRuns run = new PromiseRuns("14 triangles", 0);
+        Run run = new Run("14 triangles", 0);
         run.due(0, "chain", 4);
         run.due(0L, "triangles");
         run.due(3, "put", 2, 0);
@@ -715,7 +653,7 @@ public final class PromiseRuns {
     }
 
     private static void planPut() {
-        PromiseRuns run = new PromiseRuns("15 planPut", 1);
+        Run run = new Run("15 planPut", 1);
         run.due(0, "chain", 2);
         run.due(INDEX, "planPut", 0, 2);
         run.due(INDEX, "planPut", -1, 0);
@@ -738,7 +676,7 @@ public final class PromiseRuns {
     }
 
     private static void planTake() {
-        PromiseRuns run = new PromiseRuns("16 planTake", 0);
+        Run run = new Run("16 planTake", 0);
         run.due(0, "chain", 3);
         run.dueAll(INDEX, "planTake", 2, -1, LEAST, MOST);
         run.due(0, "planTake", 1);
@@ -772,7 +710,7 @@ public final class PromiseRuns {
     }
 
     private static void later() {
-        PromiseRuns run = new PromiseRuns("17 later", 0);
+        Run run = new Run("17 later", 0);
         run.due(0, "chain", 3);
         run.due(3, "chain", 2);
         run.due(0, "planPut", 2, 0);
@@ -796,7 +734,7 @@ public final class PromiseRuns {
         run.due(3, "told", 1);
         run.due(2, "told", 2);
 
-        PromiseRuns rings = new PromiseRuns("17 later, rings", 0);
+        Run rings = new Run("17 later, rings", 0);
         rings.due(0, "chain", 4);
         rings.due(0, "planPut", 0, 1);
         rings.due(1, "planPut", 3, 0);
@@ -807,7 +745,7 @@ public final class PromiseRuns {
     }
 
     private static void laterJoined() {
-        PromiseRuns run = new PromiseRuns("18 laterJoined", 0);
+        Run run = new Run("18 laterJoined", 0);
         run.due(0, "chain", 2);
         run.due(2, "node", 0);
         run.due(0, "planPut", 2, 1);
@@ -826,7 +764,7 @@ public final class PromiseRuns {
     }
 
     private static void drop() {
-        PromiseRuns run = new PromiseRuns("19 drop", 0);
+        Run run = new Run("19 drop", 0);
         run.due(0, "chain", 2);
         run.due(0, "drop");
         run.due(0, "planPut", 0, 1);
@@ -841,7 +779,7 @@ public final class PromiseRuns {
     }
 
     private static void told() {
-        PromiseRuns run = new PromiseRuns("20 told", 0);
+        Run run = new Run("20 told", 0);
         run.dueAll(ARGUMENT, "told", -1, 13, LEAST, MOST);
         run.due(0, "node", 0);
         run.due(1, "chain", 4);
@@ -867,7 +805,7 @@ public final class PromiseRuns {
     }
 
     private static void toldChanges() {
-        PromiseRuns run = new PromiseRuns("20 told, what THE SET changed by", 0);
+        Run run = new Run("20 told, what THE SET changed by", 0);
         for (int i = 0; i < 4; i++) {
             run.due(i, "node", 4 - i);
         }
@@ -894,7 +832,7 @@ public final class PromiseRuns {
     }
 
     private static void sound() {
-        PromiseRuns run = new PromiseRuns("21 sound", 0);
+        Run run = new Run("21 sound", 0);
         run.due(true, "sound");
         run.due(0, "chain", 8);
         run.due(true, "sound");
@@ -904,14 +842,14 @@ public final class PromiseRuns {
             run.due(true, "sound");
         }
         for (int i = 0; i < arc; i++) {
-            Asker.ask(run.x, "take", i);
+            run.ask("take", i);
             run.due(true, "sound");
         }
         run.due(8, "told", 2);
     }
 
     private static void clear() {
-        PromiseRuns run = new PromiseRuns("22 clear", 1);
+        Run run = new Run("22 clear", 1);
         for (int time = 0; time < 3; time++) {
             run.due("", "clear");
             for (int what = 0; what <= 12; what++) {
@@ -946,20 +884,14 @@ public final class PromiseRuns {
         run.dueRow("of", 5, 1);
     }
 
-    /** The constant, and that no call answers by another type. */
     private static void face() {
-        PromiseRuns run = new PromiseRuns("the face", 0);
-        rows++;
-        if (KeptParts.NONE != -1) {
-            wrong++;
-            System.out.println("NONE is " + KeptParts.NONE);
-        }
-        long triangles = run.x.triangles();
-        boolean sound = run.x.sound();
-        rows++;
-        if (triangles != 0 || !sound) {
-            wrong++;
-            System.out.println("a new object is not sound");
-        }
+        Run run = new Run("the face", 0);
+        run.dueHere(-1, "NONE", KeptParts.NONE);
+        KeptParts x = new KeptParts(0);
+        // That these are of their types is told by the compiler.
+        long triangles = x.triangles();
+        boolean sound = x.sound();
+        run.dueHere(0L, "triangles()", triangles);
+        run.dueHere(true, "sound()", sound);
     }
 }

@@ -26,7 +26,7 @@ public final class RoomCheck {
     }
 
     private static long allocated() {
-        return THREADS.getThreadAllocatedBytes(Thread.currentThread().getId());
+        return THREADS.getCurrentThreadAllocatedBytes();
     }
 
     private static void check(String what, long bytes, long most) {

@@ -23,10 +23,29 @@ import javax.tools.ToolProvider;
 /** Those rules of ../shared/LANGUAGE.md that can be read off the source. */
 public final class RuleCheck {
     private static final String SOURCE = "src/main/java/KeptParts.java";
+    /** The document's face, as the methods' own texts have it, without packages. */
     private static final Set<String> FACE = Set.of(
-        "node(int)", "chain(int)", "put(int,int)", "take(int)", "weigh(int,int)", "joined(int,int)", "two(int,int)",
-        "of(int,int)", "arc(int,int)", "order(int)", "odd(int,int)", "ring(int)", "triangles()", "planPut(int,int)",
-        "planTake(int)", "later(int,int)", "laterJoined(int,int,int)", "drop()", "told(int)", "sound()", "clear()");
+        "public int node(int) throws UnsupportedOperationException",
+        "public int chain(int) throws IllegalArgumentException,UnsupportedOperationException",
+        "public int put(int,int) throws IndexOutOfBoundsException,UnsupportedOperationException",
+        "public int take(int) throws IndexOutOfBoundsException",
+        "public int weigh(int,int) throws IndexOutOfBoundsException",
+        "public boolean joined(int,int) throws IndexOutOfBoundsException",
+        "public boolean two(int,int) throws IndexOutOfBoundsException",
+        "public int of(int,int) throws IndexOutOfBoundsException,IllegalArgumentException",
+        "public int arc(int,int) throws IndexOutOfBoundsException,IllegalArgumentException",
+        "public int order(int) throws IndexOutOfBoundsException",
+        "public int odd(int,int) throws IndexOutOfBoundsException",
+        "public int ring(int) throws IndexOutOfBoundsException",
+        "public long triangles()",
+        "public int planPut(int,int) throws IndexOutOfBoundsException,UnsupportedOperationException",
+        "public int planTake(int) throws IndexOutOfBoundsException,IllegalStateException,UnsupportedOperationException",
+        "public int later(int,int) throws IndexOutOfBoundsException,IllegalArgumentException",
+        "public boolean laterJoined(int,int,int) throws IndexOutOfBoundsException",
+        "public int drop()",
+        "public int told(int) throws IllegalArgumentException",
+        "public boolean sound()",
+        "public void clear()");
     private static final Set<String> LIBRARY = Set.of(
         "java.util.Arrays.fill(int[],int)", "java.lang.Math.max(int,int)", "java.lang.Math.min(int,int)");
     private static final Set<Tree.Kind> REFUSED = Set.of(
@@ -66,14 +85,13 @@ public final class RuleCheck {
     }
 
     private static void checkFace() {
+        if (KeptParts.class.getModifiers() != (Modifier.PUBLIC | Modifier.FINAL)) {
+            wrong.add("the class is not public and final");
+        }
         Set<String> found = new TreeSet<>();
         for (Method method : KeptParts.class.getDeclaredMethods()) {
             if (!Modifier.isPrivate(method.getModifiers())) {
-                StringBuilder face = new StringBuilder(method.getName()).append('(');
-                for (Class<?> type : method.getParameterTypes()) {
-                    face.append(face.charAt(face.length() - 1) == '(' ? "" : ",").append(type.getName());
-                }
-                found.add(face.append(')').toString());
+                found.add(method.toString().replace("KeptParts.", "").replace("java.lang.", ""));
             }
         }
         if (!found.equals(new TreeSet<>(FACE))) {
@@ -199,10 +217,22 @@ public final class RuleCheck {
         private void checkName(MethodTree tree) {
             boolean isFace = tree.getModifiers().getFlags().contains(javax.lang.model.element.Modifier.PUBLIC);
             for (String face : FACE) {
-                if (!isFace && face.startsWith(tree.getName() + "(")) {
+                if (!isFace && face.contains(" " + tree.getName() + "(")) {
                     refuse(tree, "a method of its own bears the face's name " + face);
                 }
             }
+        }
+
+        @Override
+        public Void visitThrow(ThrowTree tree, Void none) {
+            if (!(tree.getExpression() instanceof NewClassTree made) || made.getArguments().size() > 1
+                    || made.getArguments().stream().anyMatch(text -> text.getKind() != Tree.Kind.STRING_LITERAL)) {
+                refuse(tree, "a throw of something else than a new exception with a written text");
+            }
+            if (inMethod != null && inMethod.getKind() == ElementKind.CONSTRUCTOR) {
+                refuse(tree, "a throw in a constructor");
+            }
+            return super.visitThrow(tree, none);
         }
 
         @Override
