@@ -15,6 +15,7 @@ public final class LimitRuns {
     public static void main(String[] args) {
         arcsThere();
         arcsThereInAStrictHouse();
+        mostNeighbours();
         numbersOfArcs();
         Run.end("limits");
     }
@@ -83,6 +84,31 @@ public final class LimitRuns {
         run.dueRing();
         run.due(900, "put", 0, 1);
         run.due(ROOM, "put", 0, 0);
+    }
+
+    /** No two of the arcs are alike, so there are as many pairs of NEIGHBOURS as there can be. */
+    private static void mostNeighbours() {
+        Run run = Run.beyondItsCalls("at most 900 are there at once: each between two other NEIGHBOURS", 0);
+        for (int node = 0; node < 43; node++) {
+            run.due(node, "node", 0);
+        }
+        int arc = 0;
+        for (int a = 0; a < 40; a++) {
+            for (int b = a + 1; b < 43; b++) {
+                run.due(arc, "put", a, b);
+                arc++;
+            }
+        }
+        // All pairs of 43 nodes but those of 40, 41 and 42.
+        run.dueTold(43, 900, 1, 0, 0, 43, 0, 1, 40, 0, 42, 0, 0);
+        run.due(12220L, "triangles");
+        run.dueWhats("of", 39, 0, 0, 39, 39, 40, 0, 42, 1, 0);
+        run.dueWhats("of", 42, 0, 0, 42, 42, 40, 0, 40, 1, 0);
+        run.due(true, "sound");
+        run.due(ROOM, "put", 40, 41);
+        run.due(1, "take", 899);
+        run.due(12181L, "triangles");
+        run.due(39, "of", 42, 4);
     }
 
     private static void numbersOfArcs() {
